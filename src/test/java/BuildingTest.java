@@ -58,6 +58,10 @@ public final class BuildingTest {
         Check.due("the first output after clear", x.output(0), 1);
         x.log(1, 1);
         x.clear();
+        x.source(false);
+        x.gate(0, 0, NONE, NONE);
+        Check.dueThrow("the gate that stands where a flip-flop did", Check.ARGUMENT, () -> data(x, 1, 0));
+        x.clear();
         x.clear();
         dueEmpty("cleared twice", x);
     }

@@ -5,6 +5,7 @@ public final class SetAndLogTest {
     public static void main(String[] args) {
         setOfAnAnd();
         leftOut();
+        leftOutFromTheLast();
         setOfSixSources();
         setFollowsTheCircuit();
         logGrows();
@@ -47,6 +48,20 @@ public final class SetAndLogTest {
         y.source(false);
         y.output(0);
         dueSet("one observed source", y, 1, 0);
+    }
+
+    private static void leftOutFromTheLast() {
+        StuckLines x = new StuckLines();
+        x.source(false);
+        x.source(false);
+        x.gate(0, 0, 1, NONE);
+        x.gate(0, 2, 0, NONE);
+        x.output(0);
+        x.output(1);
+        x.output(3);
+        // First 1, 0, 2, 3. Without 2 or without 0 all is still shown, not without both: the later one goes.
+        Check.due("hidden faults ask for no vector", x.least(x.fault(2, 0, 1)), NONE);
+        dueSet("2 is left out, 0 is not", x, 1, 0, 3);
     }
 
     private static void setOfSixSources() {
