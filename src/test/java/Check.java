@@ -7,12 +7,24 @@ final class Check {
 
     private static int asked = 0;
     private static int wrong = 0;
+    private static String sentence = "";
+    private static int sentences = 0;
 
     interface Call {
         long answer();
     }
 
+    interface Asked {
+        long of(StuckLines x);
+    }
+
     private Check() {
+    }
+
+    /** What follows tries this sentence of the document; a wrong answer is printed with it. */
+    static void sentence(String words) {
+        sentence = "\"" + words + "\": ";
+        sentences++;
     }
 
     static void due(String what, long got, long want) {
@@ -23,7 +35,7 @@ final class Check {
         asked++;
         if (!got.equals(want)) {
             wrong++;
-            System.out.println(what + " answered " + got + ", due is " + want);
+            System.out.println(sentence + what + " answered " + got + ", due is " + want);
         }
     }
 
@@ -67,8 +79,20 @@ final class Check {
         dueText(what + ", afterwards", picture(x), before);
     }
 
+    /**
+     * A wrong call on one new object of a stage and none on another one: it throws what is due, and all that
+     * can be asked of both is the same afterwards.
+     */
+    static void dueRefused(String what, Stage stage, Class<? extends RuntimeException> want, Asked call) {
+        StuckLines tried = stage.make();
+        dueThrow(stage + ": " + what, want, () -> call.of(tried));
+        String got = stage.picture(tried);
+        dueText(stage + " after " + what, got, stage.picture(stage.make()));
+    }
+
     static void finish() {
-        System.out.println(asked + " answers asked, " + wrong + " wrong");
+        String tried = sentences == 0 ? "" : sentences + " sentences tried, ";
+        System.out.println(tried + asked + " answers asked, " + wrong + " wrong");
         if (wrong != 0 || asked == 0) {
             System.exit(1);
         }
