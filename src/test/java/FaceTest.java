@@ -35,30 +35,66 @@ public final class FaceTest {
     };
 
     public static void main(String[] args) {
-        Set<String> seen = new TreeSet<>();
-        for (Constructor<?> constructor : StuckLines.class.getDeclaredConstructors()) {
-            seen.add(head(constructor, "StuckLines"));
-        }
-        Set<String> publicNames = new TreeSet<>();
-        for (Method method : StuckLines.class.getMethods()) {
-            publicNames.add(method.getName());
-        }
-        for (Method method : StuckLines.class.getDeclaredMethods()) {
-            if (!Modifier.isPrivate(method.getModifiers())) {
-                seen.add(head(method, method.getReturnType().getSimpleName() + " " + method.getName()));
-            } else {
-                Check.due("a private method bears a public name: " + method.getName(),
-                    publicNames.contains(method.getName()) ? 1 : 0, 0);
-            }
-        }
-        Check.dueText("the face", seen.toString(), new TreeSet<>(Arrays.asList(FACE)).toString());
-        Check.due("final", Modifier.isFinal(StuckLines.class.getModifiers()) ? 1 : 0, 1);
-        for (Field field : StuckLines.class.getDeclaredFields()) {
-            boolean isNone = field.getName().equals("NONE");
-            Check.due("private: " + field.getName(), Modifier.isPrivate(field.getModifiers()) ? 1 : 0, isNone ? 0 : 1);
-        }
+        theClass();
+        everyMember();
+        noPrivateMethodWithAPublicName(StuckLines.class);
+        classesInside();
         Check.due("NONE", StuckLines.NONE, -1);
         Check.finish();
+    }
+
+    private static void theClass() {
+        Class<?> face = StuckLines.class;
+        Check.dueText("the class", Modifier.toString(face.getModifiers()) + " " + face.getName(),
+            "public final StuckLines");
+        Check.dueText("what it extends", face.getSuperclass().getSimpleName(), "Object");
+        Check.due("what it implements", face.getInterfaces().length, 0);
+        Check.dueText("no package", face.getPackageName(), "");
+    }
+
+    private static void everyMember() {
+        Set<String> seen = new TreeSet<>();
+        for (Constructor<?> constructor : StuckLines.class.getDeclaredConstructors()) {
+            addUnlessPrivate(seen, constructor, "StuckLines");
+        }
+        for (Method method : StuckLines.class.getDeclaredMethods()) {
+            addUnlessPrivate(seen, method, method.getReturnType().getSimpleName() + " " + method.getName());
+        }
+        Check.dueText("the face", seen.toString(), new TreeSet<>(Arrays.asList(FACE)).toString());
+        Set<String> fields = new TreeSet<>();
+        for (Field field : StuckLines.class.getDeclaredFields()) {
+            if (!Modifier.isPrivate(field.getModifiers())) {
+                fields.add(Modifier.toString(field.getModifiers()) + " " + field.getType() + " " + field.getName());
+            }
+        }
+        Check.dueText("the constants", fields.toString(), "[public static final int NONE]");
+    }
+
+    private static void addUnlessPrivate(Set<String> seen, Executable member, String name) {
+        if (!Modifier.isPrivate(member.getModifiers())) {
+            seen.add(head(member, name));
+        }
+    }
+
+    /** Rule 1 of the language, read as strictly as can be: in the classes inside, too. */
+    private static void noPrivateMethodWithAPublicName(Class<?> type) {
+        for (Method method : type.getDeclaredMethods()) {
+            boolean isPublicName = Arrays.stream(StuckLines.class.getMethods())
+                .anyMatch(other -> other.getName().equals(method.getName()));
+            if (Modifier.isPrivate(method.getModifiers())) {
+                Check.due("a private method bears a public name: " + method.getName(), isPublicName ? 1 : 0, 0);
+            }
+        }
+    }
+
+    private static void classesInside() {
+        for (Class<?> inside : StuckLines.class.getDeclaredClasses()) {
+            int modifiers = inside.getModifiers();
+            boolean isShown = Modifier.isPublic(modifiers) || Modifier.isProtected(modifiers);
+            Check.due("shown to all: " + inside.getSimpleName(), isShown ? 1 : 0, 0);
+            Check.due("static: " + inside.getSimpleName(), Modifier.isStatic(modifiers) ? 1 : 0, 1);
+            noPrivateMethodWithAPublicName(inside);
+        }
     }
 
     private static String head(Executable member, String name) {
